@@ -124,6 +124,11 @@ public final class FilesTest {
         TracedBuild empty = Check.scripted("cda", "?an1c");
         empty.run(0);
         check.gone("? of an empty file", empty, Check.C);
+        TracedBuild removed = Check.scripted("?an1c");
+        Check.put(removed, Check.A, 5);
+        removed.remove(Check.A);
+        removed.run(0);
+        check.gone("? of a file that was there once", removed, Check.C);
         check.file("? twice", done("?a?bn1c", row(5), row(7)), Check.C, 1);
         check.gone("? twice, the second not", done("?a?bn1c", row(5), row(0)), Check.C);
         check.gone("? twice, the first not", done("?a?bn1c", row(0), row(5)), Check.C);

@@ -200,10 +200,9 @@ public final class RunTest {
     }
 
     private static void checkHowMany(Check check) {
-        // The second one is new, so that nothing goes ahead of it: only what comes behind turn 1 tells the hands.
         String[] texts = {"n1a", "n2b", "n3c", "n4d", "n5e", "n6f", "n7g", "n8h", "n9i", "n1j"};
         TracedBuild x = ranOnce(texts);
-        // Ended by a fatal hazard in turn 1, so that what was done ahead behind turn 0 is told.
+        // A fatal hazard in turn 1 ends each run, so that only what went ahead behind turn 0 is done.
         for (int spare = 0; spare <= 4; spare++) {
             Check.edit(x, 1, spare % 2 == 0 ? "xa" : "n9a");
             x.run(0);
@@ -216,13 +215,12 @@ public final class RunTest {
 
     private static void checkInTheWay(Check check) {
         aheadOrNot(check, "m writes what j reads", "n2b", "cbc", false);
-        aheadOrNot(check, "m reads what j writes", "cbc", "pbd", true);
+        aheadOrNot(check, "m reads what j asks for", "cbc", "pbd", true);
         aheadOrNot(check, "m writes what j asks for", "n2b", "pbc", false);
         aheadOrNot(check, "m writes what j asks for among all", "n2b", "lc", false);
         aheadOrNot(check, "both read", "cbc", "cbd", true);
         aheadOrNot(check, "both ask", "pbc", "pbd", true);
         aheadOrNot(check, "nothing in common", "cbc", "cde", true);
-        // Where j writes what m needs, a hazard of turn order follows; it is found out without spare hands, too.
         TracedBuild x = ranOnce("n1a", "?kcbc", "n2b");
         x.run(1);
         check.did("m did not read b, by its trace", x, 2, 2, 6);
@@ -277,7 +275,6 @@ public final class RunTest {
         latest.run(0);
         Check.edit(latest, 2, "cce");
         latest.run(0);
-        x.run(1);
         latest.run(1);
         check.did("the latest trace counts: m writes c", latest, 2, 2, 2);
         latest.remove(Check.A);

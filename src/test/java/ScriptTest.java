@@ -142,8 +142,15 @@ public final class ScriptTest {
         check.did("the last fell out", x, 2, 2, 1, -1);
         check.file("the new last one", x, Check.E, 5);
         x.drop(0);
-        x.drop(0);
-        x.drop(0);
+        check.due("the next number", Check.command(x, "n6f"), 2);
+        check.due("the next number", Check.command(x, "n7g"), 3);
+        x.run(0);
+        check.did("behind two drops", x, 2, 2, 1, 1);
+        check.file("the new last but one", x, Check.F, 6);
+        check.file("the new last one", x, Check.G, 7);
+        for (int k = 3; k >= 0; k--) {
+            x.drop(k);
+        }
         check.due("no commands", x.commands(), 0);
         check.throwing("drop of nothing", INDEX, () -> x.drop(0));
         check.throwing("run of nothing", STATE, () -> x.run(0));
