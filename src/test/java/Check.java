@@ -1,5 +1,5 @@
-/** What the tests share: counting wrong answers, and short ways to fill an object. */
-final class Check {
+/** What the tests share: counting wrong answers, and short ways to fill an object. Some tests have one, some are one. */
+class Check {
     static final int A = 0, B = 1, C = 2, D = 3, E = 4, F = 5, G = 6, H = 7, I = 8, J = 9, K = 10, L = 11;
 
     /** A call that may throw. */
@@ -7,12 +7,42 @@ final class Check {
         void make();
     }
 
+    /** A file that is not there, and one that is there without numbers, for having() and done(). */
+    static final int[] GONE = null;
+    static final int[] EMPTY = {};
+
     private final String name;
+    private String sentence = "";
+    private int sentences = 0;
     private int checks = 0;
+    private int checksBefore = 0;
     private int wrong = 0;
 
     Check(String name) {
         this.name = name;
+    }
+
+    /** The words of the document that the checks from here on hold it to. */
+    void sentence(String words) {
+        endSentence();
+        sentence = "[" + words + "] ";
+        sentences++;
+    }
+
+    /** Some checks, of which an exception that nobody awaits ends none but these. */
+    void part(Call checks) {
+        try {
+            checks.make();
+        } catch (RuntimeException e) {
+            tell("threw " + e + " at " + e.getStackTrace()[0]);
+        }
+    }
+
+    private void endSentence() {
+        if (sentences > 0 && checks == checksBefore) {
+            tell("has no check");
+        }
+        checksBefore = checks;
     }
 
     void due(String what, long got, long want) {
@@ -74,11 +104,13 @@ final class Check {
 
     private void tell(String text) {
         wrong++;
-        System.out.println(name + ": " + text);
+        System.out.println(name + ": " + sentence + text);
     }
 
     void end() {
-        System.out.println(name + ": " + checks + " checks, " + wrong + " wrong");
+        endSentence();
+        String ofSentences = sentences == 0 ? "" : " of " + sentences + " sentences";
+        System.out.println(name + ": " + checks + " checks" + ofSentences + ", " + wrong + " wrong");
         if (wrong != 0 || checks == 0) {
             System.exit(1);
         }
@@ -106,6 +138,42 @@ final class Check {
             command(x, text);
         }
         return x;
+    }
+
+    /** Files a, b, .. with these rows; the store is empty, and so is the script. */
+    static TracedBuild having(int[]... rows) {
+        TracedBuild x = new TracedBuild();
+        for (int file = 0; file < rows.length; file++) {
+            if (rows[file] != GONE && rows[file].length == 0) {
+                makeEmpty(x, file);
+            }
+        }
+        for (int file = 0; file < rows.length; file++) {
+            if (rows[file] != GONE) {
+                put(x, file, rows[file]);
+            }
+        }
+        return x;
+    }
+
+    // Only a command can make a file that is there without numbers; it leaves neither itself nor its trace.
+    private static void makeEmpty(TracedBuild x, int file) {
+        command(x, "c" + (file == L ? 'k' : 'l') + (char) ('a' + file));
+        x.run(0);
+        x.drop(0);
+        x.tear(0);
+    }
+
+    /** The command done once, with files a, b, .. as having() makes them. */
+    static TracedBuild done(String text, int[]... rows) {
+        TracedBuild x = having(rows);
+        command(x, text);
+        x.run(0);
+        return x;
+    }
+
+    static int[] row(int... numbers) {
+        return numbers;
     }
 
     static void put(TracedBuild x, int file, int... numbers) {

@@ -52,64 +52,48 @@ public final class FilesTest {
         check.hazard("told still", y, 1, 0, 1, 0);
     }
 
-    private static TracedBuild done(String text, int[] a, int[] b) {
-        TracedBuild x = Check.scripted(text);
-        if (a != null) {
-            Check.put(x, Check.A, a);
-        }
-        if (b != null) {
-            Check.put(x, Check.B, b);
-        }
-        x.run(0);
-        return x;
-    }
-
-    private static int[] row(int... numbers) {
-        return numbers;
-    }
-
     private static void checkTaking(Check check) {
-        check.file("c", done("cac", row(3, 1, 2), null), Check.C, 3, 1, 2);
-        check.file("c of nothing is there, empty", done("cac", null, null), Check.C);
-        check.throwing("an empty file has no number", INDEX, () -> done("cac", null, null).number(Check.C, 0));
-        check.file("c over more", done("cab", row(4), row(1, 2, 3)), Check.B, 4);
-        check.file("j", done("jabc", row(1, 2), row(3)), Check.C, 1, 2, 3);
-        check.file("j the other way", done("jbac", row(1, 2), row(3)), Check.C, 3, 1, 2);
-        check.file("j is cut at six", done("jabc", row(1, 2, 3, 4), row(5, 6, 7, 8)), Check.C, 1, 2, 3, 4, 5, 6);
-        check.file("j of one file into itself", done("jaaa", row(1, 2), null), Check.A, 1, 2, 1, 2);
-        check.file("j into the second", done("jabb", row(1), row(2)), Check.B, 1, 2);
-        check.file("j with none", done("jabc", null, row(2)), Check.C, 2);
-        check.file("+", done("+abc", row(1, 2, 3), row(10, 20)), Check.C, 11, 22);
-        check.file("+ the other way", done("+abc", row(1), row(10, 20)), Check.C, 11);
-        check.file("+ wraps", done("+abc", row(32767, -32768), row(1, -1)), Check.C, -32768, 32767);
-        check.file("+ with none", done("+abc", row(1), null), Check.C);
-        check.file("+ into itself", done("+aaa", row(1, 2), null), Check.A, 2, 4);
-        check.file("s", done("sac", row(5, -3, 5, 32767, -32768, 0), null), Check.C, -32768, -3, 0, 5, 5, 32767);
-        check.file("s of nothing", done("sac", null, null), Check.C);
-        check.file("s into itself", done("saa", row(2, 1), null), Check.A, 1, 2);
-        check.file("s leaves what it read", done("sac", row(2, 1), null), Check.A, 2, 1);
-        check.file("f", done("f3ac", row(6, 7, -3, 0, 9, -4), null), Check.C, 6, -3, 0, 9);
-        check.file("f1", done("f1ac", row(5, -5), null), Check.C, 5, -5);
-        check.file("f9, none", done("f9ac", row(1, 8), null), Check.C);
+        check.file("c", Check.done("cac", Check.row(3, 1, 2), null), Check.C, 3, 1, 2);
+        check.file("c of nothing is there, empty", Check.done("cac", null, null), Check.C);
+        check.throwing("an empty file has no number", INDEX, () -> Check.done("cac", null, null).number(Check.C, 0));
+        check.file("c over more", Check.done("cab", Check.row(4), Check.row(1, 2, 3)), Check.B, 4);
+        check.file("j", Check.done("jabc", Check.row(1, 2), Check.row(3)), Check.C, 1, 2, 3);
+        check.file("j the other way", Check.done("jbac", Check.row(1, 2), Check.row(3)), Check.C, 3, 1, 2);
+        check.file("j is cut at six", Check.done("jabc", Check.row(1, 2, 3, 4), Check.row(5, 6, 7, 8)), Check.C, 1, 2, 3, 4, 5, 6);
+        check.file("j of one file into itself", Check.done("jaaa", Check.row(1, 2), null), Check.A, 1, 2, 1, 2);
+        check.file("j into the second", Check.done("jabb", Check.row(1), Check.row(2)), Check.B, 1, 2);
+        check.file("j with none", Check.done("jabc", null, Check.row(2)), Check.C, 2);
+        check.file("+", Check.done("+abc", Check.row(1, 2, 3), Check.row(10, 20)), Check.C, 11, 22);
+        check.file("+ the other way", Check.done("+abc", Check.row(1), Check.row(10, 20)), Check.C, 11);
+        check.file("+ wraps", Check.done("+abc", Check.row(32767, -32768), Check.row(1, -1)), Check.C, -32768, 32767);
+        check.file("+ with none", Check.done("+abc", Check.row(1), null), Check.C);
+        check.file("+ into itself", Check.done("+aaa", Check.row(1, 2), null), Check.A, 2, 4);
+        check.file("s", Check.done("sac", Check.row(5, -3, 5, 32767, -32768, 0), null), Check.C, -32768, -3, 0, 5, 5, 32767);
+        check.file("s of nothing", Check.done("sac", null, null), Check.C);
+        check.file("s into itself", Check.done("saa", Check.row(2, 1), null), Check.A, 1, 2);
+        check.file("s leaves what it read", Check.done("sac", Check.row(2, 1), null), Check.A, 2, 1);
+        check.file("f", Check.done("f3ac", Check.row(6, 7, -3, 0, 9, -4), null), Check.C, 6, -3, 0, 9);
+        check.file("f1", Check.done("f1ac", Check.row(5, -5), null), Check.C, 5, -5);
+        check.file("f9, none", Check.done("f9ac", Check.row(1, 8), null), Check.C);
     }
 
     private static void checkOthers(Check check) {
-        check.file("n1", done("n7c", null, null), Check.C, 7);
-        check.file("n4", done("n9119c", null, null), Check.C, 9, 1, 1, 9);
-        check.file("p, there", done("pac", row(0), null), Check.C, 1);
-        check.file("p, not there", done("pac", null, null), Check.C, 0);
-        check.file("p of itself", done("paa", null, null), Check.A, 0);
-        check.file("p of itself, there", done("paa", row(5, 6), null), Check.A, 1);
-        check.file("l", done("lc", row(1), row(1)), Check.C, 0, 1);
-        check.file("l of nothing, itself not there yet", done("lc", null, null), Check.C);
+        check.file("n1", Check.done("n7c", null, null), Check.C, 7);
+        check.file("n4", Check.done("n9119c", null, null), Check.C, 9, 1, 1, 9);
+        check.file("p, there", Check.done("pac", Check.row(0), null), Check.C, 1);
+        check.file("p, not there", Check.done("pac", null, null), Check.C, 0);
+        check.file("p of itself", Check.done("paa", null, null), Check.A, 0);
+        check.file("p of itself, there", Check.done("paa", Check.row(5, 6), null), Check.A, 1);
+        check.file("l", Check.done("lc", Check.row(1), Check.row(1)), Check.C, 0, 1);
+        check.file("l of nothing, itself not there yet", Check.done("lc", null, null), Check.C);
         TracedBuild many = Check.scripted("lh");
         for (int file = 4; file < 12; file++) {
             Check.put(many, file, 1);
         }
         many.run(0);
         check.file("l, the first six, itself too", many, Check.H, 4, 5, 6, 7, 8, 9);
-        check.gone("x", done("xa", row(1), null), Check.A);
-        check.gone("x of nothing", done("xa", null, null), Check.A);
+        check.gone("x", Check.done("xa", Check.row(1), null), Check.A);
+        check.gone("x of nothing", Check.done("xa", null, null), Check.A);
         TracedBuild empty = Check.scripted("cab", "pbc", "lf");
         empty.run(0);
         check.file("an empty file is there", empty, Check.C, 1);
@@ -117,10 +101,10 @@ public final class FilesTest {
     }
 
     private static void checkIf(Check check) {
-        check.file("? goes on", done("?acbc", row(5), row(7)), Check.C, 7);
-        check.file("? goes on below 0", done("?acbc", row(-1), row(7)), Check.C, 7);
-        check.gone("? of 0", done("?acbc", row(0, 5), row(7)), Check.C);
-        check.gone("? of nothing", done("?acbc", null, row(7)), Check.C);
+        check.file("? goes on", Check.done("?acbc", Check.row(5), Check.row(7)), Check.C, 7);
+        check.file("? goes on below 0", Check.done("?acbc", Check.row(-1), Check.row(7)), Check.C, 7);
+        check.gone("? of 0", Check.done("?acbc", Check.row(0, 5), Check.row(7)), Check.C);
+        check.gone("? of nothing", Check.done("?acbc", null, Check.row(7)), Check.C);
         TracedBuild empty = Check.scripted("cda", "?an1c");
         empty.run(0);
         check.gone("? of an empty file", empty, Check.C);
@@ -129,18 +113,18 @@ public final class FilesTest {
         removed.remove(Check.A);
         removed.run(0);
         check.gone("? of a file that was there once", removed, Check.C);
-        check.file("? twice", done("?a?bn1c", row(5), row(7)), Check.C, 1);
-        check.gone("? twice, the second not", done("?a?bn1c", row(5), row(0)), Check.C);
-        check.gone("? twice, the first not", done("?a?bn1c", row(0), row(5)), Check.C);
-        check.gone("? and x", done("?axa", row(5), null), Check.A);
-        check.file("? and x, not", done("?axb", null, row(5)), Check.B, 5);
-        check.file("five times", done("?a?b?a?b?alc", row(1), row(2)), Check.C, 0, 1);
-        check.file("? and f", done("?af2bc", row(1), row(2, 3, 4)), Check.C, 2, 4);
-        check.file("? and n", done("?a?bn4321c", row(1), row(2)), Check.C, 4, 3, 2, 1);
-        check.file("? and j", done("?a?b?a?bjabc", row(1), row(2)), Check.C, 1, 2);
-        check.file("? and +", done("?a+abc", row(1), row(2)), Check.C, 3);
-        check.file("? and s", done("?asac", row(2, 1), null), Check.C, 1, 2);
-        check.file("? and p", done("?apbc", row(2, 1), null), Check.C, 0);
+        check.file("? twice", Check.done("?a?bn1c", Check.row(5), Check.row(7)), Check.C, 1);
+        check.gone("? twice, the second not", Check.done("?a?bn1c", Check.row(5), Check.row(0)), Check.C);
+        check.gone("? twice, the first not", Check.done("?a?bn1c", Check.row(0), Check.row(5)), Check.C);
+        check.gone("? and x", Check.done("?axa", Check.row(5), null), Check.A);
+        check.file("? and x, not", Check.done("?axb", null, Check.row(5)), Check.B, 5);
+        check.file("five times", Check.done("?a?b?a?b?alc", Check.row(1), Check.row(2)), Check.C, 0, 1);
+        check.file("? and f", Check.done("?af2bc", Check.row(1), Check.row(2, 3, 4)), Check.C, 2, 4);
+        check.file("? and n", Check.done("?a?bn4321c", Check.row(1), Check.row(2)), Check.C, 4, 3, 2, 1);
+        check.file("? and j", Check.done("?a?b?a?bjabc", Check.row(1), Check.row(2)), Check.C, 1, 2);
+        check.file("? and +", Check.done("?a+abc", Check.row(1), Check.row(2)), Check.C, 3);
+        check.file("? and s", Check.done("?asac", Check.row(2, 1), null), Check.C, 1, 2);
+        check.file("? and p", Check.done("?apbc", Check.row(2, 1), null), Check.C, 0);
     }
 
     public static void main(String[] args) {

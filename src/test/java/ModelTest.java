@@ -4,7 +4,8 @@ import java.util.TreeSet;
 
 /** All promises: long runs of calls drawn from fixed seeds, every answer held against PlainModel's. */
 public final class ModelTest {
-    private static final int OBJECTS = 1000;
+    private static final int OBJECTS = 6000;
+    // Nothing is promised of an object beyond so many calls.
     private static final int CALLS = 512;
 
     /** One call's answer, or the number of the exception that it threw. */
@@ -30,6 +31,9 @@ public final class ModelTest {
     }
 
     private String same(String call, Answer real, Answer due) {
+        if (calls == CALLS) {
+            return "";
+        }
         calls++;
         String got = tell(real);
         String want = tell(due);
@@ -140,9 +144,20 @@ public final class ModelTest {
         }
     }
 
-    /** Asks for all there is; these calls are not among an object's 512, for they change nothing. */
-    private void askAll() {
-        int before = calls;
+    private void askOfRun() {
+        for (int number = -1; number <= 10; number++) {
+            int k = number;
+            seen.add("did " + same("did " + k, () -> x.did(k), () -> model.did(k)));
+            seen.add("why " + same("why " + k, () -> x.why(k), () -> model.why(k)));
+        }
+        for (int part = -1; part <= 4; part++) {
+            int what = part;
+            same("hazard " + what, () -> x.hazard(what), () -> model.hazard(what));
+        }
+        same("again", x::again, model::again);
+    }
+
+    private void askOfFilesAndStore() {
         for (int file = -1; file <= 12; file++) {
             int f = file;
             same("size " + f, () -> x.size(f), () -> model.size(f));
@@ -151,12 +166,6 @@ public final class ModelTest {
                 same("number " + f + " " + at, () -> x.number(f, at), () -> model.number(f, at));
             }
         }
-        for (int number = -1; number <= 10; number++) {
-            int k = number;
-            seen.add("did " + same("did " + k, () -> x.did(k), () -> model.did(k)));
-            seen.add("why " + same("why " + k, () -> x.why(k), () -> model.why(k)));
-            same("hazard " + k, () -> x.hazard(k), () -> model.hazard(k));
-        }
         for (int trace = 0; trace <= model.traces(); trace++) {
             int k = trace;
             for (int part = -1; part <= 5; part++) {
@@ -164,8 +173,6 @@ public final class ModelTest {
                 same("trace " + k + " " + what, () -> x.trace(k, what), () -> model.trace(k, what));
             }
         }
-        same("again", x::again, model::again);
-        calls = before;
     }
 
     private void use(int seed) {
@@ -179,26 +186,30 @@ public final class ModelTest {
         while (model.commands() < commands && calls < CALLS / 2) {
             addCommand();
         }
-        while (calls < CALLS - 12) {
-            int draw = random.nextInt(100);
-            if (draw < 30) {
-                run();
-            } else if (draw < 75) {
-                touchFiles();
-            } else if (draw < 85) {
-                ask();
-            } else if (draw < 95) {
-                change();
-            } else if (draw < 97) {
-                touchStore();
-            } else {
-                addCommand();
-            }
-            if (random.nextInt(8) == 0) {
-                askAll();
-            }
+        int last = calls + random.nextInt(CALLS - calls);
+        while (calls < last) {
+            callOne(random.nextInt(100));
         }
-        askAll();
+        askOfRun();
+        askOfFilesAndStore();
+    }
+
+    private void callOne(int draw) {
+        if (draw < 30) {
+            run();
+        } else if (draw < 75) {
+            touchFiles();
+        } else if (draw < 84) {
+            ask();
+        } else if (draw < 86) {
+            askOfRun();
+        } else if (draw < 95) {
+            change();
+        } else if (draw < 97) {
+            touchStore();
+        } else {
+            addCommand();
+        }
     }
 
     private void reached(String what) {
