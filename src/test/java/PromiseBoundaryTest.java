@@ -34,7 +34,7 @@ public final class PromiseBoundaryTest extends Check {
     }
 
     private void checkType() {
-        sentence("2: Appends a character (any one)");
+        sentence("2: Appends a character (any one) to the text at hand");
         for (int from = 0; from <= 0xFFFF; from += 12) {
             TracedBuild x = new TracedBuild();
             for (int c = from; c < from + 12 && c <= 0xFFFF; c++) {
@@ -179,7 +179,7 @@ public final class PromiseBoundaryTest extends Check {
     }
 
     private void checkPut() {
-        sentence("7: a file gets one number more (it is there then; what the latest run did is told still): how many it has");
+        sentence("7: From outside: a file gets one number more (it is there then; what the latest run did is told still): how many it has");
         TracedBuild x = ranOnce("n1a", "n2a");
         for (int i = 1; i <= 6; i++) {
             due("put", x.put(L, (short) i), i);
@@ -202,7 +202,7 @@ public final class PromiseBoundaryTest extends Check {
     }
 
     private void checkRemove() {
-        sentence("8: a file is not there any more");
+        sentence("8: From outside: a file is not there any more");
         TracedBuild x = having(row(1, 2, 3, 4, 5, 6), EMPTY);
         put(x, L, 1);
         due("with six", x.remove(A), true);
@@ -222,7 +222,7 @@ public final class PromiseBoundaryTest extends Check {
     }
 
     private void checkRun() {
-        sentence("9: 0 if it came to its end (where it was run once more, the second time), 1 if there was a fatal hazard");
+        sentence("9: Runs the script: 0 if it came to its end (where it was run once more, the second time), 1 if there was a fatal hazard");
         due("to its end", scripted("n1a").run(0), 0);
         due("fatal", scripted("n1a", "n1a").run(0), 1);
         TracedBuild end = ranOnce("n1l", "?an1b", "cbd");
@@ -307,7 +307,7 @@ public final class PromiseBoundaryTest extends Check {
         type(full, "n1l");
         throwing("command", STATE, full::command);
         due("an eleventh changes nothing", full.did(9), 1);
-        sentence("10: -1 if there is no such command");
+        sentence("10: or there is no such command");
         for (int k : new int[] {-1, 2, 9, 10, MIN, MAX}) {
             due("did(" + k + ")", x.did(k), -1);
         }
@@ -318,14 +318,14 @@ public final class PromiseBoundaryTest extends Check {
     }
 
     private void checkWhy() {
-        sentence("11: 12 if there was no trace of its text");
+        sentence("11: Why command k ran in the latest run: 12 if there was no trace of its text");
         TracedBuild x = ranOnce("n1a");
         due("none", x.why(0), 12);
         x.tear(0);
         due("told still", x.why(0), 12);
         x.run(0);
         due("none any more", x.why(0), 12);
-        sentence("11: else of the latest trace of its text then (before it ran) the first file that was read and is another one now");
+        sentence("11: else of the latest trace of its text then (before it ran) the first file that was read");
         due("the first file", whyOf("jalb", A, L), A);
         due("the last file", whyOf("jalb", L), L);
         due("the first of two, though read behind", whyOf("jlab", A, L), A);
@@ -339,7 +339,7 @@ public final class PromiseBoundaryTest extends Check {
         due("of the latest trace, not of the first", latest.why(0), B);
         put(latest, A, 2);
         due("it is told as it was then", latest.why(0), B);
-        sentence("11: or if there is none asked for");
+        sentence("11: or if there is none asked for, and is another one now");
         due("asked for, the first", whyOf("lb", A, L), A);
         due("asked for, the last", whyOf("plb", L), L);
         due("asked for", whyOf("?kpac", A), A);
@@ -412,7 +412,7 @@ public final class PromiseBoundaryTest extends Check {
         hazard("a hazard", passed, 2, 0, 1, A);
         passed.run(0);
         noHazard("none in the latest run", passed);
-        sentence("12: -1 if there was no run since the script was changed");
+        sentence("12: there was no run since the script was changed");
         TracedBuild changed = ranOnce("n1a", "n1a", "n2b");
         command(changed, "n3c");
         noHazard("command", changed);
@@ -427,7 +427,7 @@ public final class PromiseBoundaryTest extends Check {
         throwing("drop(3)", INDEX, () -> changed.drop(3));
         throwing("run(5)", ARGUMENT, () -> changed.run(5));
         hazard("what throws changes nothing", changed, 1, 0, 1, A);
-        sentence("12: -1 if there is no such what");
+        sentence("12: or there is no such what");
         for (int what : new int[] {-1, 4, 5, MIN, MAX}) {
             due("hazard(" + what + ")", changed.hazard(what), -1);
         }
@@ -479,11 +479,12 @@ public final class PromiseBoundaryTest extends Check {
             command(x, text);
         }
         x.run(0);
-        sentence("15: the length of its text, the files that were read, those asked for, the file that was written, how many numbers");
+        sentence("15: the length of its text (what = 0), the files that were read, bit f for file f (1), those that were asked for (2), "
+            + "the file that was written (3");
         trace("six numbers", x, 0, 4, 2049, 0, B, 6);
         trace("the longest text", x, 3, 12, 1, 4095, K, 2);
         trace("no numbers", x, 4, 3, 2048, 0, J, 0);
-        sentence("15: 3; -1 if none");
+        sentence("15: 3; -1 if none), how many numbers it has since (4");
         due("none", x.trace(2, 3), -1);
         due("the first file", done("xa").trace(0, 3), 0);
         due("the last file", done("xl").trace(0, 3), 11);
@@ -502,7 +503,7 @@ public final class PromiseBoundaryTest extends Check {
             }
         }
         throwing("none at all", INDEX, () -> new TracedBuild().trace(0, 0));
-        sentence("15: from 0, the oldest first");
+        sentence("15: Of trace k (from 0, the oldest first)");
         due("trace 0", x.trace(0, 0), 4);
         due("trace 1", x.trace(1, 0), 2);
         x.tear(4);
@@ -518,7 +519,7 @@ public final class PromiseBoundaryTest extends Check {
     }
 
     private void checkTear() {
-        sentence("16: only its first traces are left, as many as this says");
+        sentence("16: The store was torn: only its first traces are left, as many as this says");
         TracedBuild x = ranOnce("n1a", "n12b", "n123c");
         due("one fewer", x.tear(2), true);
         due("left", x.traces(), 2);

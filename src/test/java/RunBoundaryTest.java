@@ -149,7 +149,7 @@ public final class RunBoundaryTest extends Check {
     }
 
     private void checkLatestTrace() {
-        sentence("FITTING is the latest trace of its text");
+        sentence("FITTING is the latest trace of its text by which");
         TracedBuild x = done("cab", row(1));
         edit(x, 0, "cac");
         x.run(0);
@@ -236,7 +236,8 @@ public final class RunBoundaryTest extends Check {
     }
 
     private void checkBehindInScript() {
-        sentence("3 e comes behind f in the script, and e has written a file that f reads; or has changed whether one is there");
+        sentence("3 e comes behind f in the script, and e has written a file that f reads; "
+            + "or has changed whether one is there for which f asks");
         // Command 2 goes ahead of command 1, which by its trace reads and asks for nothing but a.
         once("f reads", taught("n1l", "?acbd", "n2b"), 1, 1, 1);
         once("f reads another", taught("n1l", "?acbd", "n2c"), 1, 0, 0);
@@ -266,7 +267,8 @@ public final class RunBoundaryTest extends Check {
     }
 
     private void checkWhichCounts() {
-        sentence("a speculative one counts before a fatal one; then, of several e, that of the first in the script; of several kinds the first");
+        sentence("When f was done, a speculative one counts before a fatal one; then, of several e, that of the first in the script; "
+            + "of several kinds the first one");
         once("speculative before fatal", taught("cbd", "?an1b", "cbe"), 1, 1, 1);
         fatal("fatal, without hands", taught("cbd", "?an1b", "cbe"), 2, 0, 1, B);
         fatal("the first of three", scripted("cld", "cle", "clf", "n1l"), 2, 0, 3, L);
@@ -294,7 +296,7 @@ public final class RunBoundaryTest extends Check {
     }
 
     private void checkBehindNext() {
-        sentence("After each turn, i, whether something had to be done in it or not: the first command j behind i + 1 that is not done");
+        sentence("the first command j behind i + 1 that is not done");
         TracedBuild one = ranOnce("n1a");
         one.run(4);
         did("one command", one, 2);
@@ -364,7 +366,7 @@ public final class RunBoundaryTest extends Check {
     }
 
     private void checkByLatestTraces() {
-        sentence("by the latest traces of their texts");
+        sentence("and that seems not to be in the way, by the latest traces of their texts");
         TracedBuild x = ranOnce("n1k", "?acbc", "cce");
         put(x, A, 1);
         x.run(0);
